@@ -671,19 +671,11 @@ public final class ForesightHub {
                 position++;
             }
             tokenStart = position;
-            if (position >= textEnd) {
-                token = END;
+            token = position < textEnd ? kindOfSign(buffer[position]) : END;
+            if (token != WORD && token != NUMBER) {
+                position = Math.min(position + 1, textEnd);
                 return;
             }
-            token = kindOfSign(buffer[position]);
-            if (token == WORD || token == NUMBER) {
-                advanceOverRun(token == WORD ? MOST_LETTERS : MOST_DIGITS);
-            } else {
-                position++;
-            }
-        }
-
-        private void advanceOverRun(int mostSigns) {
             // Letters count from 1, so that no two legal words have the same value.
             int base = token == WORD ? 27 : 10;
             int zero = token == WORD ? 'a' - 1 : '0';
@@ -692,7 +684,7 @@ public final class ForesightHub {
                 value = value * base + (buffer[position] - zero);
                 position++;
             }
-            if (position - tokenStart > mostSigns) {
+            if (position - tokenStart > (token == WORD ? MOST_LETTERS : MOST_DIGITS)) {
                 token = ILLEGAL;
             }
         }

@@ -12,6 +12,7 @@ public final class ChangePromisesTest {
         test.runningAndEnding();
         test.wrongAlarms();
         test.comingBack();
+        test.singleUnits();
         test.heirsAreNotInherited();
         test.room();
         test.fail();
@@ -120,6 +121,15 @@ public final class ChangePromisesTest {
         c.due("event(1, 1)", y.event(1, 1), 0);
         c.due("event(0, 1)", y.event(0, 1), 1);
         c.due("event(1, 0)", y.event(1, 0), 1);
+        // one error that comes within the alarm is enough, too
+        ForesightHub w = Checks.hub("hub 1 1;device a 0;alarm 9 3;");
+        w.warn(0);
+        w.frames(2);
+        w.fail(0, 0);
+        w.frames(2);
+        alarmIs(w, 0, 1);
+        w.frames(1);
+        alarmIs(w, 0, 0);
         ForesightHub z = Checks.hub("hub 1 1;device a 0;alarm 9 1;");
         z.warn(0);
         alarmIs(z, 0, 1);
@@ -147,6 +157,22 @@ public final class ChangePromisesTest {
         streamIs(x, 1, 1, 1, 0, 2);
         c.due("event(0, 0)", x.event(0, 0), 4);
         c.due("account(4)", x.account(4), 2);
+    }
+
+    private void singleUnits() {
+        c.at("terms, a single unit");
+        ForesightHub x = Checks.hub("hub 9 2;device a 0;device b 1 heir a;stream s b 1 3;stream t b 1 1;");
+        x.frames(1);
+        x.warn(1);
+        streamIs(x, 0, 2, 1, 1, 0);
+        streamIs(x, 1, 1, 0, 0, 1);
+        c.due("unplug(1)", x.unplug(1), 1);
+        c.due("account(7)", x.account(7), 1);
+        c.due("event(1, 0)", x.event(1, 0), 7);
+        streamIs(x, 0, 1, 0, 0, 0);
+        x.frames(3);
+        streamIs(x, 0, 1, 0, 0, 1);
+        streamIs(x, 1, 1, 0, 0, 4);
     }
 
     private void heirsAreNotInherited() {

@@ -278,6 +278,12 @@ public final class ForesightPromisesTest {
         ForesightHub y = Checks.hub("hub 5 1;device a 0;stream s a 5 7;stream t a 5 5;");
         y.frames(1);
         c.due("framesToClear(0), 2 by 5", y.framesToClear(0), 1);
+        ForesightHub z = Checks.hub("hub 99 2;device a 0;device b 1;stream s a 1 7;stream t b 5 11;");
+        z.frames(1);
+        c.due("framesToClear(0), 6 by 1", z.framesToClear(0), 6);
+        c.due("framesToClear(1), 6 by 5", z.framesToClear(1), 2);
+        z.frames(1);
+        c.due("framesToClear(1), 1 by 5", z.framesToClear(1), 1);
         c.thrown(x, "framesToClear(3)", INDEX, () -> x.framesToClear(3));
         c.thrown(x, "framesToClear(-1)", INDEX, () -> x.framesToClear(-1));
     }

@@ -19,6 +19,9 @@ public final class TextPromisesTest {
         test.parseBeginsAnew();
         test.syntaxFaults();
         test.unknownAndRepeated();
+        test.names();
+        test.cutRuns();
+        test.fullHub();
         test.ranges();
         test.tooMany();
         test.tokens();
@@ -131,6 +134,12 @@ public final class TextPromisesTest {
         c.due("undo() behind parse", x.undo(), -1);
         c.due("restoreSnapshot(0) behind parse", x.restoreSnapshot(0), false);
         c.due("restoreSnapshot(1) behind parse", x.restoreSnapshot(1), false);
+        x.fail(0, 0);
+        c.due("cause(0, 0), counted anew", x.cause(0, 0), 0);
+        c.due("cause(0, 2), counted anew", x.cause(0, 2), 1);
+        c.due("cause(1, 0), counted anew", x.cause(1, 0), -1);
+        c.due("parse", Checks.parse(x, TEXT), 4);
+        c.unchanged("parse of the same text again", x, Checks.allOf(Checks.hub(TEXT)));
         c.due("parse without an alarm", Checks.parse(x, "hub 5 2;device a 1;"), 0);
         c.due("size(7)", x.size(7), 10);
         c.due("size(8)", x.size(8), 5);
@@ -206,6 +215,79 @@ public final class TextPromisesTest {
         good("hub 9 3;pattern a 1 1 crc;device a 0;stream a a 1 1;device hub 1;device heir 2 heir hub;", 1);
         good("hub 9 1;device device 0;stream stream device 1 1;pattern pattern 1 1 crc;pattern crc 1 1 crc;", 1);
         good("hub 9 2;device aaaaaaaa 0;device aaaaaaab 1;stream zzzzzzzz aaaaaaab 1 1;stream zzzzzzz aaaaaaaa 1 1;", 2);
+    }
+
+    private void names() {
+        c.at("promise 3, names");
+        good("hub 9 8;device a 0;device aa 1;device aaa 2;device b 3;device ab 4;device ba 5;device z 6;device az 7;", 0);
+        good("hub 9 8;device y 0;device zz 1;device za 2;device azz 3;device baa 4;device zaaaaaaa 5;"
+                + "device zzzzzzzz 6;device aaaaaaaa 7;", 0);
+        ForesightHub x = Checks.hub("hub 9 3;device ab 0;device b 1;device ba 2 heir b;stream s ba 1 1;stream t ab 1 1;");
+        c.due("device(2, 1)", x.device(2, 1), 1);
+        c.due("stream(0, 6)", x.stream(0, 6), 2);
+        c.due("stream(1, 6)", x.stream(1, 6), 0);
+    }
+
+    private void cutRuns() {
+        c.at("promise 3, a text that ends within a run of the buffer");
+        ForesightHub x = new ForesightHub();
+        Checks.append(x, "hub 55 33;");
+        c.due("parse(5)", x.parse(5), Checks.fault(5, 1));
+        Checks.append(x, "hubhub 55 33;");
+        c.due("parse(3)", x.parse(3), Checks.fault(3, 1));
+        Checks.append(x, "hub 5 3;alarm 012345");
+        c.due("parse(18)", x.parse(18), Checks.fault(18, 1));
+        Checks.append(x, "hub 5 3;device abcdefghi 0;");
+        c.due("parse(23)", x.parse(23), Checks.fault(23, 1));
+        Checks.append(x, "hub 5 3;;;");
+        c.due("parse(8)", x.parse(8), 0);
+        StringBuilder full = new StringBuilder("hub 1 1;alarm 1 ");
+        while (full.length() < 599) {
+            full.append(' ');
+        }
+        c.due("parse(600), with a number at the end", Checks.parse(x, full + "1"), Checks.fault(600, 1));
+        c.due("parse(600), with a word at the end", Checks.parse(x, full + "a"), Checks.fault(599, 1));
+    }
+
+    /** As much of everything as there may be, so that every row is used up to its end. */
+    private void fullHub() {
+        c.at("limits");
+        StringBuilder text = new StringBuilder("hub 999 8;");
+        for (int i = 0; i < 6; i++) {
+            text.append("pattern ").append((char) ('a' + i)).append(" 9 9 crc crc crc crc crc;");
+        }
+        for (int i = 0; i < 8; i++) {
+            text.append("device ").append((char) ('a' + i)).append(' ').append(7 - i);
+            text.append(i > 0 ? " heir a;" : ";");
+        }
+        for (int i = 0; i < 12; i++) {
+            text.append("stream ").append((char) ('a' + i)).append(" h 9 99;");
+        }
+        ForesightHub x = new ForesightHub();
+        c.due("the text's length", text.length() <= 600, true);
+        c.due("parse", Checks.parse(x, text.toString()), 12);
+        c.due("device(7, 6)", x.device(7, 6), 4095);
+        c.due("device(7, 7)", x.device(7, 7), 108);
+        c.due("size(6)", x.size(6), 108);
+        x.frames(1);
+        c.due("atStake(7)", x.atStake(7), 108);
+        c.due("framesToClear(7)", x.framesToClear(7), 10);
+        for (int i = 0; i < 4; i++) {
+            c.due("fail(7, 0)", x.fail(7, 0), 0);
+        }
+        c.due("fail(7, 0)", x.fail(7, 0), 54);
+        c.due("device(7, 4)", x.device(7, 4), 63);
+        c.due("weakest()", x.weakest(), 7);
+        c.due("whyNotRunning(11)", x.whyNotRunning(11), 4);
+        x.frames(4);
+        c.due("callOff(7)", x.callOff(7), 12);
+        c.due("unplug(7)", x.unplug(7), 12 * 45);
+        c.due("event(0, 1)", x.event(0, 1), 11);
+        c.due("device(0, 6)", x.device(0, 6), 4095);
+        c.due("plug(7, 0)", x.plug(7, 0), 12);
+        c.due("deviceAt(0)", x.deviceAt(0), 7);
+        c.due("account(7)", x.account(7), 12);
+        c.due("what can be asked for", Checks.allOf(x).size() > 500, true);
     }
 
     private void ranges() {

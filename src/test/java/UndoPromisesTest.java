@@ -14,6 +14,7 @@ public final class UndoPromisesTest {
         test.undoEach();
         test.undoTen();
         test.undoThenChange();
+        test.fullRows();
         test.saveSnapshot();
         test.restoreSnapshot();
         test.snapshotsAndUndo();
@@ -107,6 +108,42 @@ public final class UndoPromisesTest {
         c.due("undo()", x.undo(), 0);
     }
 
+    /** Rows that are full, so that later events and errors stand where earlier ones stood. */
+    private void fullRows() {
+        c.at("promises 27 and 29, full rows");
+        ForesightHub x = Checks.hub(TEXT);
+        x.setScore(999);
+        for (int i = 0; i < 14; i++) {
+            x.fail(2, i % 3);
+            x.warn(1);
+            x.frames(1);
+            x.callOff(1);
+        }
+        List<String> saved = stateOf(x);
+        x.saveSnapshot(0);
+        x.warn(0);
+        x.frames(2);
+        x.fail(2, 3);
+        x.unplug(1);
+        x.fail(0, 3);
+        x.fail(2, 3);
+        for (int left = 9; left >= 4; left--) {
+            c.due("undo()", x.undo(), left);
+        }
+        c.due("all behind undo()", stateOf(x), saved);
+        x.unplug(2);
+        x.plug(2, 3);
+        for (int i = 0; i < 14; i++) {
+            x.frames(1);
+            x.fail(2, 3);
+            x.fail(1, i % 4);
+            x.warn(0);
+            x.callOff(0);
+        }
+        c.due("restoreSnapshot(0)", x.restoreSnapshot(0), true);
+        c.due("all behind it", stateOf(x), saved);
+    }
+
     private void saveSnapshot() {
         c.at("promise 28");
         ForesightHub x = Checks.hub(TEXT);
@@ -156,6 +193,18 @@ public final class UndoPromisesTest {
         c.due("restoreSnapshot(1) again", x.restoreSnapshot(1), true);
         c.due("all behind it again", stateOf(x), saved);
         c.due("restoreSnapshot(0), still empty", x.restoreSnapshot(0), false);
+        // of the causes, another one came in the place of one that was undone
+        ForesightHub y = Checks.hub(TEXT);
+        y.fail(0, 3);
+        y.fail(1, 2);
+        y.saveSnapshot(0);
+        y.undo();
+        y.fail(2, 1);
+        c.due("cause(1, 0)", y.cause(1, 0), 2);
+        y.restoreSnapshot(0);
+        c.due("cause(1, 0) restored", y.cause(1, 0), 1);
+        c.due("cause(1, 1) restored", y.cause(1, 1), 2);
+        c.due("cause(2, 0) restored", y.cause(2, 0), -1);
     }
 
     private void snapshotsAndUndo() {
