@@ -25,8 +25,8 @@ final class ReadingEdges extends Edges {
     }
 
     private void size() {
-        at(4, "`what`: 0 patterns, 1 devices, 2 streams, 3 whole, 4 ports, 5 the time,", "7 the score of the alarm, 8 grace, "
-                + "9 changes that can be undone", "Returns the number.");
+        at(4, "`what`: 0 patterns, 1 devices, 2 streams, 3 whole, 4 ports, 5 the time,",
+                "7 the score of the alarm, 8 grace, 9 changes that can be undone", "Returns the number.");
         int[] fresh = {0, 0, 0, 1, 1, 0, 0, 10, 5, 0};
         int[] least = {1, 2, 3, 9, 4, 0, 6, 7, 8, 0};
         ForesightHub x = new ForesightHub();

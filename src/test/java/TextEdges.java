@@ -202,8 +202,8 @@ final class TextEdges extends Edges {
     }
 
     private void statements() {
-        at("TEXT", "statement = \"pattern\" name weight within error { error } |", "\"device\" name port [ \"heir\" device ]",
-                "\"stream\" name device rate packet", "\"alarm\" score grace",
+        at("TEXT", "statement = \"pattern\" name weight within error { error } |",
+                "\"device\" name port [ \"heir\" device ]", "\"stream\" name device rate packet", "\"alarm\" score grace",
                 "error = \"crc\" | \"stall\" | \"jitter\" | \"power\"");
         fault("hub 9 2;pattern p 1 1;", 21, 1);
         good("hub 9 2;pattern p 1 1 crc;", 0);
