@@ -976,7 +976,8 @@ public final class ForesightHub {
         Hub() {
             plan = new Plan();
             state = new State();
-            state.begin(plan);
+            // Without devices and streams nothing else of a new state is ever looked at.
+            state.alarmScore = plan.score;
         }
 
         void begin(Plan newPlan) {

@@ -143,6 +143,23 @@ public final class LanguageTest {
             c.due("a sign of the source", sign == '\n' || sign >= 32 && sign < 127, true);
         }
         methodLines(code.split("\n"));
+        constructors(code);
+    }
+
+    /** Rule 12: a constructor calls other constructors alone, or methods without arguments, so it hands out nothing. */
+    private void constructors(String code) {
+        Matcher body = Pattern.compile("(?ms)^( *)(?:public )?[A-Z]\\w*\\([^)]*\\) \\{\n(.*?)^\\1\\}").matcher(code);
+        int found = 0;
+        while (body.find()) {
+            found++;
+            Matcher call = Pattern.compile("(?<!new )\\b(?!for\\b|if\\b|new\\b)[\\w.]+\\((?!\\))")
+                    .matcher(body.group(2));
+            while (call.find()) {
+                c.due("a call in a constructor", body.group(2).substring(call.start()), "without arguments");
+            }
+            c.due("a constructor names itself", body.group(2).contains("this"), false);
+        }
+        c.due("constructors", found, 4);
     }
 
     /** A method is what opens a brace behind a parenthesis within a class; a class opens one without. */
